@@ -1,0 +1,75 @@
+/** Promise 44: nothing is wrong in any yard, and asking changes nothing. */
+public final class ErrorsTest {
+    private static long seed = 44;
+
+    public static void main(String[] args) {
+        empty();
+        manyNets();
+        nothingChanges();
+        Due.end();
+    }
+
+    private static int draw(int from, int upTo) {
+        seed = seed * 6364136223846793005L + 1442695040888963407L;
+        return from + (int) ((seed >>> 33) % (upTo - from + 1));
+    }
+
+    private static void empty() {
+        SlipwayYard x = new SlipwayYard();
+        Due.is("errors()", 0, x::errors);
+        x.slip(5);
+        x.crane(5);
+        x.block(1, 1, 1, 1);
+        x.plate(10203);
+        Due.is("errors()", 0, x::errors);
+        Due.is("errors() of a text that is no net", 0, () -> {
+            x.type('?');
+            return x.errors();
+        });
+    }
+
+    private static void manyNets() {
+        for (int net = 0; net < 600; net++) {
+            SlipwayYard x = new SlipwayYard();
+            int works = draw(1, 16);
+            int most = draw(0, 4);
+            for (int work = 0; work < works; work++) {
+                int time = draw(0, 60);
+                x.work(time, Math.max(0, time - draw(0, most)), draw(0, 50), draw(0, 9));
+                x.delay(work, draw(0, 3), draw(0, 60));
+                x.delay(work, draw(0, 3), draw(0, 60));
+            }
+            for (int wait = draw(-1, 40); wait >= 0; wait--) {
+                int one = draw(0, works - 1);
+                int two = draw(0, works - 1);
+                if (one > two && wait < 40) {
+                    x.waits(one, two, net % 2 == 0 ? 0 : draw(0, 3), draw(0, 30));
+                }
+            }
+            Due.is("errors() of net " + net, 0, x::errors);
+        }
+    }
+
+    private static void nothingChanges() {
+        SlipwayYard x = Due.net("a=5/3;b=3/1;c=2/0;d=4;a>b+2;a>c;b>d;c>d");
+        x.set(0, 2, 4);
+        x.set(1, 2, 3);
+        x.set(2, 3, 5);
+        x.delay(1, 1, 7);
+        x.slip(9);
+        x.stand(0, 2, 3, 4, 5);
+        for (int k = 0; k < 3; k++) {
+            Due.is("errors()", 0, x::errors);
+            Due.is("clearText()", k == 0 ? 39 : 0, x::clearText);
+            Due.is("length()", 14, x::length);
+            Due.is("early(3)", 10, () -> x.early(3));
+            Due.is("late(2)", 8, () -> x.late(2));
+            Due.is("cost(13)", 3L, () -> x.cost(13));
+            Due.is("cost(10)", 10L + 4, () -> x.cost(10));
+            Due.is("lateLength(2)", 21, () -> x.lateLength(2));
+            Due.is("set(1, 1, 1)", 1, () -> x.set(1, 1, 1));
+            Due.is("firstStand(0, 9, 1, false)", 0, () -> x.firstStand(0, 9, 1, false));
+            Due.is("firstStand(0, 9, 5, false)", 9, () -> x.firstStand(0, 9, 5, false));
+        }
+    }
+}
