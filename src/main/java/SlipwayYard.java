@@ -1063,6 +1063,7 @@ public final class SlipwayYard {
             // each turn sends a unit at least, and more than MOST_FLOW units only a way without a limit takes
             for (int turn = 0; turn <= MOST_FLOW; turn++) {
                 findLongest();
+                // without works there is no way at all, and NONE is below each length
                 if (reach[SINK] <= length) {
                     return cost;
                 }
@@ -1125,8 +1126,6 @@ public final class SlipwayYard {
             for (int round = 0; round <= nodes && isMoving; round++) {
                 isMoving = improve();
             }
-            // a net without works has no way at all
-            reach[SINK] = Math.max(0, reach[SINK]);
         }
 
         private boolean improve() {

@@ -8,6 +8,7 @@ public final class NetTest {
         waitingInCircles();
         fortyWaits();
         dropping();
+        droppingOfManySorts();
         clearing();
         Due.end();
     }
@@ -181,6 +182,27 @@ public final class NetTest {
         Due.is("early(1)", 0, () -> x.early(1));
         Due.is("works() stay", 2, x::works);
         Due.is("the other way round now", 1, () -> x.waits(0, 1, 0, 0));
+    }
+
+    private static void droppingOfManySorts() {
+        // the wait that goes stands ahead of those of other works, sorts and lags
+        SlipwayYard x = Due.net("a=5;b=7;c=2;d=3;a>b;b^c+4;a_d+6;c<d+9");
+        Due.is("early(1)", 5, () -> x.early(1));
+        Due.is("drop(0)", 3, () -> x.drop(0));
+        Due.is("early(1)", 0, () -> x.early(1));
+        Due.is("early(2)", 4, () -> x.early(2));
+        Due.is("early(3)", 10, () -> x.early(3));
+        Due.state("c waits for b still", () -> x.waits(1, 2, 0, 0));
+        Due.state("d waits for a still", () -> x.waits(0, 3, 0, 0));
+        Due.state("d waits for b still, through c", () -> x.waits(1, 3, 0, 0));
+        Due.is("drop(0)", 2, () -> x.drop(0));
+        Due.is("early(2)", 0, () -> x.early(2));
+        Due.is("early(3)", 8, () -> x.early(3));
+        Due.is("drop(0)", 1, () -> x.drop(0));
+        Due.is("early(3)", 6, () -> x.early(3));
+        Due.is("a may wait for d now", 2, () -> x.waits(0, 3, 0, 0));
+        Due.is("early(0)", 9, () -> x.early(0));
+        Due.is("errors()", 0, x::errors);
     }
 
     private static void clearing() {

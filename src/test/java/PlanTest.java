@@ -13,6 +13,7 @@ public final class PlanTest {
         rowsByNumber();
         peaks();
         leastPeaks();
+        evenPeaks();
         tooMuchPlay();
         playThatIsNotFree();
         meanPlays();
@@ -240,6 +241,33 @@ public final class PlanTest {
         Due.is("errors()", 0, w::errors);
     }
 
+    private static void evenPeaks() {
+        // 8 means of 4 days lie 2 on each
+        SlipwayYard x = yard(new int[][] {{4, 1}, {2, 1}, {2, 1}}, new int[][] {});
+        Due.is("peak()", 3, x::peak);
+        Due.is("leastPeak()", 2, x::leastPeak);
+        // 7 means of 4 days do not lie on 1 each; a work of no days has no means on any
+        SlipwayYard y = yard(new int[][] {{4, 1}, {2, 1}, {1, 1}, {0, 9}}, new int[][] {});
+        Due.is("peak()", 3, y::peak);
+        Due.is("leastPeak()", 2, y::leastPeak);
+        // a wait with a lag keeps the two of 2 days from lying behind each other
+        SlipwayYard z = yard(new int[][] {{4, 1}, {2, 1}, {2, 1}}, new int[][] {{2, 1, 2, 0}, {2, 1, 3, 2}});
+        Due.is("leastPeak()", 2, z::leastPeak);
+        z.waits(1, 0, 1, 1);
+        Due.is("leastPeak() of day 1 on", 3, z::leastPeak);
+        // the wait for a work that moves comes ahead of all other waits
+        SlipwayYard w = yard(new int[][] {{1, 2}, {1, 2}, {1, 2}, {4, 0}}, new int[][] {{0, 1, 0, 0}, {1, 2, 1, 1}});
+        Due.is("peak()", 2, w::peak);
+        Due.is("leastPeak()", 2, w::leastPeak);
+        SlipwayYard v = yard(new int[][] {{2, 3}, {3, 0}, {1, 3}}, new int[][] {{2, 0, 0, 0}});
+        Due.is("leastPeak() of a row", 3, v::leastPeak);
+        v.drop(0);
+        v.waits(2, 0, 2, 0);
+        Due.is("leastPeak() of ends", 3, v::leastPeak);
+        v.set(2, 0, 2);
+        Due.is("leastPeak() of 4 days in 3", 6, v::leastPeak);
+    }
+
     private static void tooMuchPlay() {
         // plays 4 and 1 each: 5 to the 5th is 3125, times 2 is 6250
         SlipwayYard x = new SlipwayYard();
@@ -267,6 +295,17 @@ public final class PlanTest {
         y.set(1, 1, 40);
         y.set(1, 0, 40);
         Due.state("leastPeak() of 5250 ways", y::leastPeak);
+        y.set(1, 0, 41);
+        Due.is("leastPeak() of 5000 ways again", 6, y::leastPeak);
+        y.work(59, 59, 0, 1);
+        Due.state("leastPeak() of 5000 ways twice", y::leastPeak);
+        // plays 1, 40 and 60
+        SlipwayYard w = new SlipwayYard();
+        w.work(60, 60, 0, 0);
+        w.work(59, 59, 0, 3);
+        w.work(20, 20, 0, 3);
+        w.work(0, 0, 0, 3);
+        Due.state("leastPeak() of 5002 ways", w::leastPeak);
         // the greatest plays of all
         SlipwayYard z = new SlipwayYard();
         for (int k = 0; k < 15; k++) {
@@ -299,7 +338,10 @@ public final class PlanTest {
         x.set(2, 1, 0);
         x.set(2, 0, 2);
         Due.is("meanPlay() of 0, 2 and 3", 5.0 / 3.0, x::meanPlay);
+        x.set(0, 1, 0);
+        x.set(0, 0, 0);
+        Due.is("meanPlay() of 3, 0 and 1", 4.0 / 3.0, x::meanPlay);
         SlipwayYard y = Due.net("a=5;b=5");
-        Due.is("meanPlay() of none", 0.0, y::meanPlay);
+        Due.is("meanPlay() without play", 0.0, y::meanPlay);
     }
 }

@@ -39,7 +39,7 @@ public final class RandomRunsTest {
         {10203040506L, 10702L, 20703L, 30704L, 40705L, 50706L, 60701L}};
 
     public static void main(String[] args) {
-        int runs = args.length > 0 ? Integer.parseInt(args[0]) : 420;
+        int runs = args.length > 0 ? Integer.parseInt(args[0]) : 1400;
         for (int run = 0; run < runs && wrong < 20; run++) {
             seed = 977L * run + 31;
             String theme = THEMES[run % THEMES.length];

@@ -144,6 +144,10 @@ public final class ShorterTest {
     private static void alone() {
         SlipwayYard x = yard(new int[][] {{6, 2, 3}}, new int[][] {});
         costs(x, 6, 0, 3, 6, 9, 12, -1, -1);
+        // two beside each other that wait for nothing
+        SlipwayYard y = yard(new int[][] {{6, 2, 3}, {8, 3, 5}}, new int[][] {});
+        costs(y, 8, 0, 5, 10, 18, 26, 34, -1);
+        Due.is("shortest()", 3, y::shortest);
         x.delay(0, 0, 10);
         Due.is("cost(6) without the delays", 0L, () -> x.cost(6));
         Due.is("shortest() without the delays", 2, x::shortest);

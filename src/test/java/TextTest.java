@@ -65,7 +65,19 @@ public final class TextTest {
         Due.is("type of the last byte", 200, () -> y.type('a'));
         Due.is("errorPlace() behind the last byte", 200, y::errorPlace);
         Due.state("type of 1 byte behind 200", () -> y.type('a'));
+        Due.state("type(1) behind 200", () -> y.type(1));
+        Due.state("type(1 << 63) behind 200", () -> y.type(Long.MIN_VALUE));
         Due.is("type of none behind 200", 200, () -> y.type(0));
+        Due.is("errorPlace() stays", 200, y::errorPlace);
+        // a number that ends with the 200th byte
+        SlipwayYard z = new SlipwayYard();
+        for (int k = 1; k <= 24; k++) {
+            z.type(0x2020202020202020L);
+        }
+        Due.type(z, "  a = 12");
+        Due.is("errorKind() of 200 bytes", 0, z::errorKind);
+        Due.is("read() of 200 bytes", 1, z::read);
+        Due.is("length() of 200 bytes", 12, z::length);
     }
 
     private static void clearing() {
@@ -78,6 +90,13 @@ public final class TextTest {
         Due.is("type(a) from the front", 1, () -> x.type('a'));
         Due.type(x, "=1");
         Due.is("errorKind() of the new text", 0, x::errorKind);
+        // an error does not stay when the text goes on
+        x.type(';');
+        Due.is("errorKind() of an end too early", 1, x::errorKind);
+        Due.is("errorPlace() of an end too early", 4, x::errorPlace);
+        Due.type(x, "b=2");
+        Due.is("errorPlace() behind it", -1, x::errorPlace);
+        Due.is("errorKind() behind it", 0, x::errorKind);
     }
 
     private static void text(String text, int kind, int place) {
