@@ -1,4 +1,6 @@
-/** Promise 44: nothing is wrong in any yard, and asking changes nothing. */
+import java.lang.reflect.Field;
+
+/** Promise 44: nothing is wrong in any yard, and asking changes nothing; what is spoilt by force is found. */
 public final class ErrorsTest {
     private static long seed = 44;
 
@@ -6,7 +8,50 @@ public final class ErrorsTest {
         empty();
         manyNets();
         nothingChanges();
+        spoiltStands();
+        spoiltWaits();
         Due.end();
+    }
+
+    /** A field of one of the classes inside, which no call can spoil. */
+    private static Object inside(Object of, String field) {
+        try {
+            Field found = of.getClass().getDeclaredField(field);
+            found.setAccessible(true);
+            return found.get(of);
+        } catch (ReflectiveOperationException e) {
+            throw new IllegalStateException(e);
+        }
+    }
+
+    private static void spoiltStands() {
+        SlipwayYard x = new SlipwayYard();
+        x.slip(9);
+        x.stand(0, 2, 3, 4, 5);
+        x.stand(0, 5, 3, 4, 5);
+        Object slip = ((Object[]) inside(x, "slips"))[0];
+        int[] place = (int[]) inside(slip, "place");
+        int[] day = (int[]) inside(slip, "day");
+        place[1] = 4;
+        Due.is("errors() of stands with a place in common", 1, x::errors);
+        day[1] = 9;
+        Due.is("errors() of stands behind each other", 0, x::errors);
+        day[1] = 8;
+        Due.is("errors() of stands with a day in common", 1, x::errors);
+        day[1] = 9;
+        place[0] = 7;
+        Due.is("errors() of a stand that leaves the slip", 1, x::errors);
+        place[0] = 6;
+        Due.is("errors() of a stand at the end of the slip", 0, x::errors);
+    }
+
+    private static void spoiltWaits() {
+        SlipwayYard x = Due.net("a=5;b=3;c=2;a>b;b>c");
+        int[] ordered = (int[]) inside(inside(x, "net"), "ordered");
+        Due.is("errors()", 0, x::errors);
+        ordered[0] = 1;
+        ordered[1] = 0;
+        Due.holds("errors() of beginnings by the wrong order", x.errors() > 0);
     }
 
     private static int draw(int from, int upTo) {

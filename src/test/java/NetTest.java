@@ -203,6 +203,15 @@ public final class NetTest {
         Due.is("a may wait for d now", 2, () -> x.waits(0, 3, 0, 0));
         Due.is("early(0)", 9, () -> x.early(0));
         Due.is("errors()", 0, x::errors);
+        // waits that are made from the back of a row to its front
+        SlipwayYard y = Due.net("a=5;b=7;c=2;d=3;c>d+1;b>c+2;a>b+3");
+        Due.is("early(3)", 20, () -> y.early(3));
+        Due.is("drop(0)", 2, () -> y.drop(0));
+        Due.is("early(1)", 8, () -> y.early(1));
+        Due.is("early(2)", 17, () -> y.early(2));
+        Due.is("early(3)", 0, () -> y.early(3));
+        Due.is("drop(1)", 1, () -> y.drop(1));
+        Due.is("early(2)", 9, () -> y.early(2));
     }
 
     private static void clearing() {

@@ -127,6 +127,12 @@ public final class PlanTest {
         Due.is("rows()", 1L, x::rows);
         Due.is("peak()", 9, x::peak);
         Due.is("leastPeak()", 9, x::leastPeak);
+        for (int work = 1; work < 16; work++) {
+            x.set(work, 3, 0);
+        }
+        x.set(0, 3, 8);
+        Due.is("peak() of the last work", 8, x::peak);
+        Due.is("leastPeak() of the last work", 8, x::leastPeak);
         Due.is("cost(1410)", 0L, () -> x.cost(1410));
         Due.is("cost(1409)", -1L, () -> x.cost(1409));
         Due.is("shortest()", 1410, x::shortest);
