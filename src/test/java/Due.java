@@ -2,12 +2,18 @@
 final class Due {
     private static int wrong = 0;
     private static int asked = 0;
+    private static String about = "";
 
     interface Call {
         Object run();
     }
 
     private Due() {
+    }
+
+    /** What the next calls are about: told ahead of each that is wrong. */
+    static void about(String what) {
+        about = what;
     }
 
     /** What a call answers, as a text; throws.Name if it throws. */
@@ -24,7 +30,7 @@ final class Due {
         String got = answer(call);
         if (!got.equals(String.valueOf(want))) {
             wrong++;
-            System.out.println(what + " answered " + got + ", due is " + want);
+            System.out.println(about + what + " answered " + got + ", due is " + want);
         }
     }
 
