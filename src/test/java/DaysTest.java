@@ -78,7 +78,17 @@ public final class DaysTest {
         day(x, 4, 4);
         day(x, 5, 8);
         day(x, 2000, 2801);
-        for (int number = 0; number < 600; number++) {
+        allOf(0, 300);
+        allOf(300, 600);
+    }
+
+    /** The work days from a number on, without the weekdays 5 and 6 and the day 7. */
+    private static void allOf(int from, int upTo) {
+        SlipwayYard x = new SlipwayYard();
+        x.rest(5);
+        x.rest(6);
+        x.free(7);
+        for (int number = from; number < upTo; number++) {
             // without the free day 7, number + 1 others are ahead
             int due = number < 5 ? number : (number + 1) / 5 * 7 + (number + 1) % 5;
             day(x, number, due);

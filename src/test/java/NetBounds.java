@@ -113,7 +113,7 @@ final class NetBounds {
             Bounds.answers("two ways that are no circle", 16, NetBounds::chain, x -> x.waits(15, 0, 0, 0));
             // when the wait between has gone, there is no circle any more
             Bounds.answers("no circle any more", "14 15", NetBounds::chain, x -> x.drop(7) + " " + x.waits(0, 15, 0, 0));
-            Bounds.answers("no circle, as one of two waits only is left", "throws.IllegalStateException", NetBounds::twice,
+            Bounds.answers("still a circle by the second of two waits", Bounds.STATE, () -> waiting(2),
                 x -> x.drop(0) + " " + x.waits(0, 1, 0, 0));
         });
     }
@@ -132,10 +132,6 @@ final class NetBounds {
             x.waits(work, work - 1, work % 4, 0);
         }
         return x;
-    }
-
-    private static SlipwayYard twice() {
-        return waiting(2);
     }
 
     /** Work 1 of 3 days waits for work 0 of 7 days: work 1's earliest beginning, and a day sooner is not in the plan. */

@@ -80,14 +80,16 @@ public final class RandomRunsTest {
         }
     }
 
-    /** What differs from run to run: one wait in so many of another sort, times, lags, cells, days, works. */
-    private static final int[] SIZES = new int[6];
+    /** What differs from run to run: one wait in so many of another sort, times, lags, cells, days, works, odd numbers. */
+    private static final int[] SIZES = new int[7];
 
     private static SlipwayYard own;
     private static Reference due;
     private static int solid;
+    private static int calls;
 
     private static void renew() {
+        calls = 0;
         own = new SlipwayYard();
         due = new Reference();
         solid = draw(0, SOLIDS.length - 1);
@@ -101,6 +103,7 @@ public final class RandomRunsTest {
         SIZES[3] = new int[] {4, 12, 99}[draw(0, 2)];
         SIZES[4] = new int[] {12, 60, 400}[draw(0, 2)];
         SIZES[5] = new int[] {3, 7, 16}[draw(0, 2)];
+        SIZES[6] = run % 5 == 4 ? 4 : 40;
         int sum = 0;
         for (int k = 1; k < theme.length; k += 2) {
             sum += Integer.parseInt(theme[k]);
@@ -141,6 +144,11 @@ public final class RandomRunsTest {
 
     private static void ask(int run, int call, String name, Object... arguments) {
         String real = name.equals("sign") ? "type" : name;
+        // an object is good for so many calls, and a text takes several
+        if (calls == CALLS) {
+            renew();
+        }
+        calls++;
         String want = answer(DUE.get(real), due, arguments);
         String got = answer(OWN.get(real), own, arguments);
         asked++;
@@ -153,7 +161,7 @@ public final class RandomRunsTest {
 
     /** A number of a range, at times one of its ends or beyond. */
     private static Integer within(int from, int upTo) {
-        if (oneIn(40)) {
+        if (oneIn(SIZES[6])) {
             int[] odd = {from - 1, upTo + 1, Integer.MIN_VALUE, Integer.MAX_VALUE, from, upTo, -1, 0};
             return odd[draw(0, odd.length - 1)];
         }

@@ -25,8 +25,9 @@ final class RuleBounds {
 
     /** 511 calls, a third of them refused, and the 512th answers as it should. */
     private static void lastCall() {
+        // three calls type and read the text
         SlipwayYard x = Due.net("a=5;b=3;a>b+2");
-        for (int call = 2 + 1; call < 512; call++) {
+        for (int call = 4; call < 512; call++) {
             int day = call % 3;
             if (day == 0) {
                 Due.argument("call " + call, () -> x.free(401));
