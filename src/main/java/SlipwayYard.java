@@ -217,16 +217,14 @@ public final class SlipwayYard {
         if (!isWithin(length, 0, MOST_LENGTH)) {
             throw new IllegalArgumentException("the length is out of range");
         }
-        return net.isPlain() ? shortening.leastCost(net, length) : NONE;
+        return net.isPlain() ? shortening.leastCost(net, plan, length) : NONE;
     }
 
     public int shortest() {
         if (!net.isPlain()) {
             return NONE;
         }
-        plan.takeLeastTimes(net);
-        plan.passForward(net);
-        return plan.end;
+        return plan.countLeastEnd(net);
     }
 
     public int peak() {
@@ -889,10 +887,13 @@ public final class SlipwayYard {
             }
         }
 
-        void takeLeastTimes(Net net) {
+        /** The end if all works take their least times. */
+        int countLeastEnd(Net net) {
             for (int work = 0; work < net.count; work++) {
                 time[work] = net.least[work];
             }
+            passForward(net);
+            return end;
         }
 
         /** By how much the beginning of the work that waits is behind that of the other one, at least. */
@@ -1056,11 +1057,14 @@ public final class SlipwayYard {
         private final int[] reach = new int[MOST_NODES];
         private final int[] reachedBy = new int[MOST_NODES];
 
-        /** NONE if it cannot be done; all waits must be of the sort ENDS_BEGINS. */
-        long leastCost(Net net, int length) {
+        /** NONE if it cannot be done; all waits must be of the sort ENDS_BEGINS. The trial's times are changed. */
+        long leastCost(Net net, Plan trial, int length) {
+            if (trial.countLeastEnd(net) > length) {
+                return NONE;
+            }
             build(net);
             long cost = 0;
-            // each turn sends a unit at least, and more than MOST_FLOW units only a way without a limit takes
+            // a way that is longer than the length has a time with a price, so no more than MOST_FLOW units are sent
             for (int turn = 0; turn <= MOST_FLOW; turn++) {
                 findLongest();
                 // without works there is no way at all, and NONE is below each length
@@ -1068,9 +1072,6 @@ public final class SlipwayYard {
                     return cost;
                 }
                 int units = findRoom();
-                if (units > MOST_FLOW) {
-                    return NONE;
-                }
                 send(units);
                 cost += (long) units * (reach[SINK] - length);
             }
@@ -1640,7 +1641,7 @@ public final class SlipwayYard {
             }
             int wrong = 0;
             for (int less = 0; less < LENGTHS && less <= length; less++) {
-                wrong += shortening.leastCost(net, length - less) != costs[less] ? 1 : 0;
+                wrong += shortening.leastCost(net, trial, length - less) != costs[less] ? 1 : 0;
             }
             return wrong;
         }

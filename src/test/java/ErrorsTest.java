@@ -10,6 +10,7 @@ public final class ErrorsTest {
         nothingChanges();
         spoiltStands();
         spoiltWaits();
+        lostWaits();
         Due.end();
     }
 
@@ -51,7 +52,27 @@ public final class ErrorsTest {
         Due.is("errors()", 0, x::errors);
         ordered[0] = 1;
         ordered[1] = 0;
-        Due.holds("errors() of beginnings by the wrong order", x.errors() > 0);
+        // c begins at 3 ahead of b's end, b latest at 3 ahead of a's latest end, and lies on a row with the play -2
+        Due.is("errors() of beginnings by the wrong order", 3, x::errors);
+        SlipwayYard y = Due.net("a=3;b=5;c=2;a>c;b>a");
+        ordered = (int[]) inside(inside(y, "net"), "ordered");
+        ordered[0] = 0;
+        ordered[1] = 1;
+        Due.is("errors() of beginnings by the wrong order of other numbers", 3, y::errors);
+    }
+
+    /** A wait that is left out, which only the earliest or only the latest beginnings do not keep then. */
+    private static void lostWaits() {
+        SlipwayYard x = Due.net("a=5;b=3;c=0;a>b;b>c");
+        int[] ordered = (int[]) inside(inside(x, "net"), "ordered");
+        ordered[1] = 0;
+        Due.is("late(2)", 8, () -> x.late(2));
+        Due.is("errors() of an earliest beginning that is too early", 1, x::errors);
+        SlipwayYard y = Due.net("a=0;b=3;c=2;a>b;b>c");
+        ordered = (int[]) inside(inside(y, "net"), "ordered");
+        ordered[0] = 1;
+        Due.is("early(1)", 0, () -> y.early(1));
+        Due.is("errors() of a latest beginning that is too late", 1, y::errors);
     }
 
     private static int draw(int from, int upTo) {

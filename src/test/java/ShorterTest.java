@@ -1,5 +1,7 @@
 /** Promises 19 and 20: what it costs to be done sooner, and the shortest length. */
 public final class ShorterTest {
+    private static long seed = 19;
+
     public static void main(String[] args) {
         outOfRange();
         noWorks();
@@ -10,6 +12,7 @@ public final class ShorterTest {
         pricesOfNothing();
         otherSorts();
         alone();
+        belowTheShortest();
         Due.end();
     }
 
@@ -151,5 +154,34 @@ public final class ShorterTest {
         x.delay(0, 0, 10);
         Due.is("cost(6) without the delays", 0L, () -> x.cost(6));
         Due.is("shortest() without the delays", 2, x::shortest);
+    }
+
+    private static int draw(int from, int upTo) {
+        seed = seed * 6364136223846793005L + 1442695040888963407L;
+        return from + (int) ((seed >>> 33) % (upTo - from + 1));
+    }
+
+    /** Nets of short works, many of them dear, with many longest ways: none can be done below the shortest length. */
+    private static void belowTheShortest() {
+        for (int net = 0; net < 400; net++) {
+            SlipwayYard x = new SlipwayYard();
+            int works = draw(8, 16);
+            int most = draw(1, 3);
+            for (int work = 0; work < works; work++) {
+                int time = draw(0, most);
+                x.work(time, draw(0, time), draw(0, 2) == 0 ? 1000 : draw(0, 4), 0);
+            }
+            for (int wait = draw(0, 40); wait > 0; wait--) {
+                int other = draw(0, works - 2);
+                x.waits(draw(other + 1, works - 1), other, SlipwayYard.ENDS_BEGINS, draw(0, 1));
+            }
+            int shortest = x.shortest();
+            for (int length = Math.max(0, shortest - 4); length < shortest; length++) {
+                int its = length;
+                Due.is("cost(" + length + ") below the shortest length of net " + net, -1L, () -> x.cost(its));
+            }
+            Due.holds("cost(" + shortest + ") of net " + net, x.cost(shortest) >= 0);
+            Due.is("cost() of the length of net " + net, 0L, () -> x.cost(x.length()));
+        }
     }
 }
